@@ -1,0 +1,50 @@
+/** What the tests of the project share: texts on the tape, and the count of wrong answers. */
+final class Check {
+    private int wrong;
+
+    void due(String call, long got, long want) {
+        if (got != want) {
+            wrong++;
+            System.out.println(call + " answered " + got + ", due is " + want);
+        }
+    }
+
+    /** A refused call: NONE, and then its STATUS. */
+    void refused(String call, TagDraw x, long got, int status) {
+        due(call, got, TagDraw.NONE);
+        due("status() behind " + call, x.status(), status);
+    }
+
+    void end(String test) {
+        System.out.println(test + ": " + (wrong == 0 ? "all answers are as due" : wrong + " answers are not as due"));
+        if (wrong != 0) {
+            System.exit(1);
+        }
+    }
+
+    /** The five ints whose bytes are the twenty signs from a place on; blanks behind the end. */
+    static int[] packed(String text, int from) {
+        int[] five = new int[5];
+        for (int i = 0; i < 20; i++) {
+            int sign = from + i < text.length() ? text.charAt(from + i) & 255 : 32;
+            five[i / 4] = five[i / 4] << 8 | sign;
+        }
+        return five;
+    }
+
+    static int load(TagDraw x, String text) {
+        for (int from = 0; from < text.length(); from += 20) {
+            int[] five = packed(text, from);
+            x.feed(five[0], five[1], five[2], five[3], five[4]);
+        }
+        return x.load(text.length());
+    }
+
+    static TagDraw of(String text) {
+        TagDraw x = new TagDraw();
+        if (load(x, text) == TagDraw.NONE) {
+            throw new IllegalStateException("fault " + x.fault(0) + " at " + x.fault(1) + " in " + text);
+        }
+        return x;
+    }
+}
