@@ -13,12 +13,13 @@ import java.util.stream.Collectors;
 
 /** The public face, and those rules of ../shared/LANGUAGE.md that can be looked up. */
 public final class FaceTest {
-    private static final String FACE = "int status()|int feed(int,int,int,int,int)|int load(int)|int fault(int)|int many(int)"
-        + "|int hunter(int,int)|int unit(int,int)|int applicant(int,int)|int choice(int,int)|int demand(int,int)"
+    private static final String FACE = "int status()|int feed(int,int,int,int,int)|int load(int)|int fault(int)"
+        + "|int many(int)|int hunter(int,int)|int unit(int,int)"
+        + "|int applicant(int,int)|int choice(int,int)|int demand(int,int)"
         + "|int share(int,int)|int order(int,int)|int drawn(int,int)|int round(int,int)|int left(int,int,int)"
         + "|int winners(int)|int waits(int,int,int)|int next(int,int,int)|int envies(int,int)|int spoils(int,int)"
-        + "|int behind(int,int)|int lucky(int,int)|long chance(int,int)|long at(int,int)|long both(int,int)|int sure(int)"
-        + "|long mean(int)|int given(int)|int ends()|int need(int,int)|int wise(int)|long wiseChance(int)"
+        + "|int behind(int,int)|int lucky(int,int)|long chance(int,int)|long at(int,int)|long both(int,int)"
+        + "|int sure(int)|long mean(int)|int given(int)|int ends()|int need(int,int)|int wise(int)|long wiseChance(int)"
         + "|long together(int,int)|long apart(int)|int likes(int)|int years(int,int,int)|int often(int,int,int)"
         + "|int soonest(int,int,int)|int draw(int)|int points(int,int)|int quota(int,int)|int choose(int,int,int,int)"
         + "|int law(int)|int prefer(int)|int guests(int)|int split(int)|int undo()|int print(int)|int out(int)";
@@ -76,7 +77,8 @@ public final class FaceTest {
             }
         }
         for (Class<?> c : classes()) {
-            long fields = Arrays.stream(c.getDeclaredFields()).filter(f -> !Modifier.isStatic(f.getModifiers())).count();
+            long fields = Arrays.stream(c.getDeclaredFields())
+                .filter(f -> !Modifier.isStatic(f.getModifiers())).count();
             check(fields <= 20, "rule 11: " + c + " has " + fields + " fields");
             for (Field f : c.getDeclaredFields()) {
                 check(!Modifier.isStatic(f.getModifiers()) || Modifier.isFinal(f.getModifiers()), "rule 5: " + f);

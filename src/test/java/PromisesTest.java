@@ -246,6 +246,7 @@ public final class PromisesTest {
         for (int k = 0; k < 3; k++) {
             CHECK.due("18: waits(1, 0, " + k + ")", row.waits(1, 0, k), order[k]);
         }
+        CHECK.due("19: next(1, 0, 1)", row.next(1, 0, 1), 2);
 
         CHECK.due("19: next(0, 0, 1)", x.next(0, 0, 1), 2);
         CHECK.refused("19: next(0, 0, 0)", x, x.next(0, 0, 0), 5);
@@ -351,6 +352,13 @@ public final class PromisesTest {
         // 1,000,000,000,000 by 4, by 3, by 2, each cut, for each of 24 ORDERS.
         CHECK.due("24: chance(1, 0)", y.chance(1, 0), 999999999984L);
 
+        TagDraw nobody = Check.of("unit u 0;hunter a 0;hunter b 0;asks a u;");
+        CHECK.due("27: sure(0) of nobody", nobody.sure(0), 0);
+        CHECK.due("27: sure(1) of nobody", nobody.sure(1), 3);
+        CHECK.due("29: given(0) of nobody", nobody.given(0), 0);
+        CHECK.due("29: given(1) of nobody", nobody.given(1), 0);
+        CHECK.due("30: ends() of nobody", nobody.ends(), 1);
+
         // The six ahead of the seventh have no PARTS at all; it is an ORDER all the same.
         TagDraw z = Check.of("unit u 6;hunter a 20;hunter b 0;hunter c 0;hunter d 0;hunter e 0;hunter f 0;hunter g 0;"
             + "asks a u;asks b u;asks c u;asks d u;asks e u;asks f u;asks g u;law square;");
@@ -416,7 +424,8 @@ public final class PromisesTest {
         CHECK.due("34: together(0, 1) by a second CHOICE", second.together(0, 1), 1000000000000L);
         CHECK.due("34: together(1, 0) by a third CHOICE", second.together(1, 0), 1000000000000L);
         // A fifth party, if only in thought.
-        TagDraw five = Check.of(hunters(10) + "unit u 2;party p ha hb;party q hc hd;party r he hf;party s hg hh;asks hi u;");
+        TagDraw five = Check.of(hunters(10) + "unit u 2;party p ha hb;party q hc hd;party r he hf;party s hg hh;"
+            + "asks hi u;");
         CHECK.due("34: together(8, 9)", five.together(8, 9), 120 * 8333333333L);
         CHECK.due("34: together(9, 8)", five.together(9, 8), 0);
         // Eight are seven then: 1,000,000,000,000 by 7, 6, 5, 4, 3 and 2, each cut, for 5040 ORDERS.
@@ -552,6 +561,9 @@ public final class PromisesTest {
         CHECK.due("38: often(0, 3, 1) with a second CHOICE", y.often(0, 3, 1), 3);
         CHECK.refused("39: soonest(0, 3, 1) with a second CHOICE", y, y.soonest(0, 3, 1), 5);
         CHECK.due("39: soonest(0, 4, 1)", y.soonest(0, 4, 1), 4);
+        TagDraw served = Check.of("unit u 1;hunter a 0;asks a u;");
+        CHECK.due("37: years(0, 3, 2) with one each year", served.years(0, 3, 2), 0);
+        CHECK.due("37: years(0, 3, 1) with one each year", served.years(0, 3, 1), 0);
         TagDraw idle = Check.of("hunter a 0;");
         CHECK.due("37: years(0, 7, 2) without CHOICES", idle.years(0, 7, 2), 7);
         CHECK.due("37: years(0, 7, 1) without CHOICES", idle.years(0, 7, 1), 1);

@@ -9,7 +9,8 @@ import java.util.Random;
 public final class RandomRunsTest {
     /** Each call with what its arguments are; see argument(). */
     private static final String[] CALLS = {
-        "fault W2", "many W11", "hunter H W5", "unit U W6", "applicant A W7", "choice A W3", "demand U W2", "share A W2",
+        "fault W2", "many W11", "hunter H W5", "unit U W6", "applicant A W7", "choice A W3", "demand U W2",
+        "share A W2",
         "order S A", "drawn S A", "round S A", "left S U W4", "winners S", "waits S U K", "next S U Q", "envies S A",
         "spoils S A", "behind S H", "lucky L A",
         "years S Y W3", "often S Y H", "soonest S Y H",
@@ -18,6 +19,8 @@ public final class RandomRunsTest {
     /** Those that go through all ORDERS. */
     private static final String[] DEAR = {"chance A W3", "at A U", "both A A", "sure W2", "mean U", "given W2", "ends",
         "need H T", "wise A", "wiseChance A", "together H H", "apart P", "likes A"};
+
+    private static final int[] FAR = {Integer.MIN_VALUE, -1_000_000_000, -2, 1_000_000_000, Integer.MAX_VALUE};
 
     private final Random random;
     private final TagDraw program = new TagDraw();
@@ -59,10 +62,13 @@ public final class RandomRunsTest {
 
     /** A number from 0 on; now and then one that is no such. */
     private int oneOf(int count) {
-        return rarely() || count == 0 ? new int[] {-1, count, 10, Integer.MIN_VALUE, Integer.MAX_VALUE}[below(5)] : below(count);
+        return rarely() || count == 0 ? new int[] {-1, count, 10}[below(3)] : below(count);
     }
 
     private int argument(String kind) {
+        if (below(60) == 0) {
+            return FAR[below(FAR.length)];
+        }
         int most = kind.length() > 1 ? Integer.parseInt(kind.substring(1)) : 0;
         switch (kind.charAt(0)) {
             case 'W': return rarely() ? below(2) * (most + 1) - 1 : below(most);
@@ -77,7 +83,7 @@ public final class RandomRunsTest {
             case 'K': return below(6) - 2;
             case 'Q': return rarely() ? below(2) * 22 - 1 : below(2) == 0 ? below(4) : below(21);
             case 'Y': return rarely() ? below(2) * 31 : 1 + below(30);
-            case 'N': return rarely() ? below(2) * 102 - 1 : new int[] {0, 25, 40, 50, 60, 75, 100, below(101)}[below(8)];
+            case 'N': return rarely() ? below(2) * 102 - 1 : below(2) == 0 ? below(101) : below(5) * 25;
             case 'T': return rarely() ? below(2) * 1002 - 1 : below(1001);
             case 'O': return below(45) - 1;
             default: throw new IllegalStateException(kind);
@@ -205,9 +211,10 @@ public final class RandomRunsTest {
         return (char) ('a' + i);
     }
 
-    private static final String[] PIECES = {"unit", "hunter", "guest", "party", "asks", "law", "prefer", "guests", "line",
-        "plain", "ua", "ub", "ha", "hb", "pa", "x", "abcdefgh", "abcdefghi", "0", "20", "21", "101", "999", "1000", ";", " ",
-        "\n", "\t", "A", "-", "\u00e9", "unit q 1;", "hunter z 2;", "law line;", "prefer 0;", "guests 3;", "asks ha ua;"};
+    private static final String[] PIECES = {"unit", "hunter", "guest", "party", "asks", "law", "prefer", "guests",
+        "line", "plain", "ua", "ub", "ha", "hb", "pa", "x", "abcdefgh", "abcdefghi", "0", "20", "21", "101", "999",
+        "1000", ";", " ", "\n", "\t", "A", "-", "\u00e9", "unit q 1;", "hunter z 2;", "law line;", "prefer 0;",
+        "guests 3;", "asks ha ua;"};
 
     private String faulty(String text) {
         int at = below(text.length() + 1);

@@ -138,7 +138,8 @@ public final class TextTest {
         fine("unit plain 1;hunter line 2;hunter square 3;party units line square;asks units plain;", 2);
         fine("asks a u;", -1);
         fine("unit u 1;unit v 1;unit w 1;hunter a 1;asks a w v u;", 1);
-        fine("hunter a 1;hunter aa 1;hunter aaa 1;hunter b 1;hunter ba 1;hunter ab 1;hunter zzzzzzzz 1;hunter zzzzzzzy 1;", 8);
+        fine("hunter a 1;hunter aa 1;hunter aaa 1;hunter b 1;hunter ba 1;hunter ab 1;", 6);
+        fine("hunter zzzzzzzz 1;hunter zzzzzzzy 1;", 2);
         fine(hunters(10) + "party p ha hb;party q hc hd;party r he hf;party s hg hh hi hj;", 10);
         fine("unit a 1;unit b 1;unit c 1;unit d 1;unit e 1;", 0);
     }
@@ -165,6 +166,8 @@ public final class TextTest {
         fault("7 unit u 1;", 2, 0);
         fault("guest;", 2, 0);
         fault("units u 1;", 2, 0);
+        fault("xnit u 1;", 2, 0);
+        fault("unix u 1;", 2, 0);
         fault("unit", 2, 4);
         fault("unit  ", 2, 6);
         fault("unit u", 2, 6);
