@@ -32,12 +32,25 @@ final class Check {
         return five;
     }
 
-    static int load(TagDraw x, String text) {
+    static void feed(TagDraw x, String text) {
         for (int from = 0; from < text.length(); from += 20) {
             int[] five = packed(text, from);
             x.feed(five[0], five[1], five[2], five[3], five[4]);
         }
+    }
+
+    static int load(TagDraw x, String text) {
+        feed(x, text);
         return x.load(text.length());
+    }
+
+    /** LINES of so many HUNTERS without POINTS: ha, hb, .. */
+    static String hunters(int n) {
+        StringBuilder text = new StringBuilder();
+        for (int h = 0; h < n; h++) {
+            text.append("hunter h").append((char) ('a' + h)).append(" 0;");
+        }
+        return text.toString();
     }
 
     static TagDraw of(String text) {
