@@ -15,6 +15,22 @@ final class Check {
         due("status() behind " + call, x.status(), status);
     }
 
+    /** A TEXT without a FAULT, of so many HUNTERS. */
+    void fine(String text, int hunters) {
+        TagDraw x = new TagDraw();
+        due("4: load of \"" + text + "\"", load(x, text), hunters);
+        due("5: fault(0) of \"" + text + "\"", x.fault(0), 0);
+        due("5: fault(1) of \"" + text + "\"", x.fault(1), TagDraw.NONE);
+    }
+
+    void fault(String text, int fault, int place) {
+        TagDraw x = new TagDraw();
+        refused("4: load of \"" + text + "\"", x, load(x, text), 9);
+        due("5: fault(0) of \"" + text + "\"", x.fault(0), fault);
+        due("5: fault(1) of \"" + text + "\"", x.fault(1), place);
+        due("4: many(1) behind \"" + text + "\"", x.many(1), 0);
+    }
+
     void end(String test) {
         System.out.println(test + ": " + (wrong == 0 ? "all answers are as due" : wrong + " answers are not as due"));
         if (wrong != 0) {

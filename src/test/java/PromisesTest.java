@@ -424,12 +424,12 @@ public final class PromisesTest {
         CHECK.due("34: together(0, 1) by a second CHOICE", second.together(0, 1), 1000000000000L);
         CHECK.due("34: together(1, 0) by a third CHOICE", second.together(1, 0), 1000000000000L);
         // A fifth party, if only in thought.
-        TagDraw five = Check.of(hunters(10) + "unit u 2;party p ha hb;party q hc hd;party r he hf;party s hg hh;"
+        TagDraw five = Check.of(Check.hunters(10) + "unit u 2;party p ha hb;party q hc hd;party r he hf;party s hg hh;"
             + "asks hi u;");
         CHECK.due("34: together(8, 9)", five.together(8, 9), 120 * 8333333333L);
         CHECK.due("34: together(9, 8)", five.together(9, 8), 0);
         // Eight are seven then: 1,000,000,000,000 by 7, 6, 5, 4, 3 and 2, each cut, for 5040 ORDERS.
-        TagDraw eight = Check.of(hunters(8) + "unit u 2;asks ha u;");
+        TagDraw eight = Check.of(Check.hunters(8) + "unit u 2;asks ha u;");
         CHECK.due("34: together(0, 1) of eight", eight.together(0, 1), 999999997920L);
         CHECK.refused("24: chance(0, 0) of eight", eight, eight.chance(0, 0), 3);
 
@@ -442,14 +442,14 @@ public final class PromisesTest {
         CHECK.due("35: apart(0) for one tag", y.apart(0), 0);
         y.quota(0, 3);
         CHECK.due("35: apart(0) for three", y.apart(0), 999999999996L);
-        TagDraw seven = Check.of(hunters(8) + "party p ha hb;");
+        TagDraw seven = Check.of(Check.hunters(8) + "party p ha hb;");
         CHECK.refused("35: apart(0) into eight", seven, seven.apart(0), 3);
         CHECK.due("35: chance(6, 0) of the seven", seven.chance(6, 0), 0);
         CHECK.due("35: status()", seven.status(), 0);
     }
 
     private static void tooMany() {
-        TagDraw x = Check.of("unit u 1;" + hunters(10) + "party p ha hb;asks p u;asks hc u;");
+        TagDraw x = Check.of("unit u 1;" + Check.hunters(10) + "party p ha hb;asks p u;asks hc u;");
         CHECK.due("6: many(3)", x.many(3), 9);
         CHECK.refused("24: chance", x, x.chance(0, 0), 3);
         CHECK.refused("24: chance", x, x.chance(0, 3), 1);
@@ -472,14 +472,14 @@ public final class PromisesTest {
         CHECK.refused("36: likes", x, x.likes(0), 3);
         CHECK.due("13: order is for any number", x.order(0, 0), 0);
         notTooMany();
-        TagDraw bare = Check.of(hunters(8));
+        TagDraw bare = Check.of(Check.hunters(8));
         CHECK.refused("32: wise, 3 ahead of 5", bare, bare.wise(0), 3);
     }
 
     /** Seven are answered for; 1,000,000,000,000 by 7, 6, 5, 4, 3 and 2, each cut, for 5040 ORDERS. */
     private static void notTooMany() {
         long all = 999999997920L;
-        TagDraw x = Check.of(hunters(7) + "unit u 1;asks ha u;");
+        TagDraw x = Check.of(Check.hunters(7) + "unit u 1;asks ha u;");
         CHECK.due("24: chance of seven", x.chance(0, 0), all);
         CHECK.due("25: at of seven", x.at(0, 0), all);
         CHECK.due("26: both of seven", x.both(0, 6), 0);
@@ -493,7 +493,7 @@ public final class PromisesTest {
         CHECK.due("32: wise of seven", x.wise(6), 0);
         CHECK.due("33: wiseChance of seven", x.wiseChance(0), all);
         CHECK.due("36: likes of seven", x.likes(0), 0);
-        TagDraw party = Check.of(hunters(7) + "unit u 2;party p hf hg;asks p u;");
+        TagDraw party = Check.of(Check.hunters(7) + "unit u 2;party p hf hg;asks p u;");
         CHECK.due("35: apart into seven", party.apart(0), all);
     }
 
@@ -781,13 +781,5 @@ public final class PromisesTest {
             CHECK.due("50: out(" + i + ") of " + text, x.out(i), text.charAt(i));
         }
         CHECK.refused("50: out(" + text.length() + ")", x, x.out(text.length()), 5);
-    }
-
-    private static String hunters(int n) {
-        StringBuilder text = new StringBuilder();
-        for (int h = 0; h < n; h++) {
-            text.append("hunter h").append((char) ('a' + h)).append(" 0;");
-        }
-        return text.toString();
     }
 }

@@ -70,7 +70,7 @@ public final class TextTest {
 
     private static void loadTakesTheFirstBytes() {
         TagDraw x = new TagDraw();
-        feed(x, "hunter a 1;hunter b 2;oops");
+        Check.feed(x, "hunter a 1;hunter b 2;oops");
         CHECK.refused("4: load(-1)", x, x.load(-1), 1);
         CHECK.refused("4: load(41)", x, x.load(41), 1);
         CHECK.due("4: fault(0) ahead of any", x.fault(0), TagDraw.NONE);
@@ -81,7 +81,7 @@ public final class TextTest {
         CHECK.refused("4: load(1) on an empty tape", x, x.load(1), 1);
         CHECK.due("4: many(1)", x.many(1), 2);
         CHECK.due("5: fault(0) behind STATUS 1", x.fault(0), 0);
-        feed(x, "hunter a 1;");
+        Check.feed(x, "hunter a 1;");
         CHECK.due("4: load(11)", x.load(11), 1);
         CHECK.due("4: many(1) anew", x.many(1), 1);
         CHECK.due("4: load(0)", x.load(0), 0);
@@ -94,12 +94,12 @@ public final class TextTest {
         String[] texts = {"prefer 100;", "hunter ab 1;", "unit u 1 ;"};
         int[] ends = {8, 8, 8};
         for (int i = 0; i < 3; i++) {
-            feed(x, texts[i]);
+            Check.feed(x, texts[i]);
             CHECK.refused("4: load(" + ends[i] + ") of " + texts[i], x, x.load(ends[i]), 9);
             CHECK.due("5: fault(0)", x.fault(0), 2);
             CHECK.due("5: fault(1)", x.fault(1), ends[i]);
         }
-        feed(x, "unit u 1;unit");
+        Check.feed(x, "unit u 1;unit");
         CHECK.due("4: load(9)", x.load(9), 0);
         CHECK.due("4: many(0)", x.many(0), 1);
     }
@@ -108,7 +108,7 @@ public final class TextTest {
         TagDraw x = Check.of("unit u 2;hunter a 1;asks a u;prefer 50;guests 40;law line;");
         x.law(2);
         x.print(0);
-        feed(x, "hunter a 1;hunter b 2;x");
+        Check.feed(x, "hunter a 1;hunter b 2;x");
         CHECK.refused("4: load(23)", x, x.load(23), 9);
         CHECK.due("5: fault(0)", x.fault(0), 2);
         CHECK.due("5: fault(1)", x.fault(1), 22);
@@ -125,175 +125,148 @@ public final class TextTest {
     }
 
     private static void texts() {
-        fine("", 0);
-        fine(" \n \n", 0);
-        fine("unit u 0;", 0);
-        fine("unit u 020 ;\nhunter\na\n007\nguest\n;", 1);
-        fine("unitu3;", -1);
-        fine("unit u3;hunter a1guest;", 1);
-        fine("unit abcdefgh 20;hunter z 20;", 1);
-        fine("prefer 0;guests 000;law plain;", 0);
-        fine("prefer 100;guests 100;law square;", 0);
+        CHECK.fine("", 0);
+        CHECK.fine(" \n \n", 0);
+        CHECK.fine("unit u 0;", 0);
+        CHECK.fine("unit u 020 ;\nhunter\na\n007\nguest\n;", 1);
+        CHECK.fault("unitu3;", 2, 0);
+        CHECK.fine("unit u3;hunter a1guest;", 1);
+        CHECK.fine("unit abcdefgh 20;hunter z 20;", 1);
+        CHECK.fine("prefer 0;guests 000;law plain;", 0);
+        CHECK.fine("prefer 100;guests 100;law square;", 0);
         // What is said in other LINES is no WORD of its own as a NAME.
-        fine("unit plain 1;hunter line 2;hunter square 3;party units line square;asks units plain;", 2);
-        fine("asks a u;", -1);
-        fine("unit u 1;unit v 1;unit w 1;hunter a 1;asks a w v u;", 1);
-        fine("hunter a 1;hunter aa 1;hunter aaa 1;hunter b 1;hunter ba 1;hunter ab 1;", 6);
-        fine("hunter zzzzzzzz 1;hunter zzzzzzzy 1;", 2);
-        fine(hunters(10) + "party p ha hb;party q hc hd;party r he hf;party s hg hh hi hj;", 10);
-        fine("unit a 1;unit b 1;unit c 1;unit d 1;unit e 1;", 0);
+        CHECK.fine("unit plain 1;hunter line 2;hunter square 3;party units line square;asks units plain;", 2);
+        CHECK.fault("asks a u;", 4, 5);
+        CHECK.fine("unit u 1;unit v 1;unit w 1;hunter a 1;asks a w v u;", 1);
+        CHECK.fine("hunter a 1;hunter aa 1;hunter aaa 1;hunter b 1;hunter ba 1;hunter ab 1;", 6);
+        CHECK.fine("hunter zzzzzzzz 1;hunter zzzzzzzy 1;", 2);
+        CHECK.fine(Check.hunters(10) + "party p ha hb;party q hc hd;party r he hf;party s hg hh hi hj;", 10);
+        CHECK.fine("unit a 1;unit b 1;unit c 1;unit d 1;unit e 1;", 0);
     }
 
     private static void faultsOfTokens() {
-        fault("unit u 1;\tunit v 1;", 1, 9);
-        fault("Unit u 1;", 1, 0);
-        fault("unit abcdefghi 1;", 1, 5);
-        fault("unit u 0001;", 1, 7);
-        fault("unit u 1000", 1, 7);
-        fault("unit u -1;", 1, 7);
-        fault("unit u 1,", 1, 8);
-        fault("unit \u00e9 1;", 1, 5);
-        fault("unit u 1;\u0000", 1, 9);
-        fault("hunters_", 2, 0);
-        fault("abcdefghijkl", 1, 0);
-        fault("law abcdefghi;", 1, 4);
-        fault("prefer 9999;", 1, 7);
-        fault("hunter a 1 guest,", 1, 16);
+        CHECK.fault("unit u 1;\tunit v 1;", 1, 9);
+        CHECK.fault("Unit u 1;", 1, 0);
+        CHECK.fault("unit abcdefghi 1;", 1, 5);
+        CHECK.fault("unit u 0001;", 1, 7);
+        CHECK.fault("unit u 1000", 1, 7);
+        CHECK.fault("unit u -1;", 1, 7);
+        CHECK.fault("unit u 1,", 1, 8);
+        CHECK.fault("unit \u00e9 1;", 1, 5);
+        CHECK.fault("unit u 1;\u0000", 1, 9);
+        CHECK.fault("hunters_", 2, 0);
+        CHECK.fault("abcdefghijkl", 1, 0);
+        CHECK.fault("law abcdefghi;", 1, 4);
+        CHECK.fault("prefer 9999;", 1, 7);
+        CHECK.fault("hunter a 1 guest,", 1, 16);
     }
 
     private static void faultsOfPlaces() {
-        fault(";", 2, 0);
-        fault("7 unit u 1;", 2, 0);
-        fault("guest;", 2, 0);
-        fault("units u 1;", 2, 0);
-        fault("xnit u 1;", 2, 0);
-        fault("unix u 1;", 2, 0);
-        fault("unit", 2, 4);
-        fault("unit  ", 2, 6);
-        fault("unit u", 2, 6);
-        fault("unit u 1", 2, 8);
-        fault("unit u 1\n", 2, 9);
-        fault("unit u u;", 2, 7);
-        fault("unit 1 u;", 2, 5);
-        fault("unit u 1 1;", 2, 9);
-        fault("unit u 1 guest;", 2, 9);
-        fault("hunter a 1 guest guest;", 2, 17);
-        fault("hunter a 1 guests;", 2, 11);
-        fault("hunter a;", 2, 8);
-        fault("law;", 2, 3);
-        fault("law 1;", 2, 4);
-        fault("law plain line;", 2, 10);
-        fault("prefer ;", 2, 7);
-        fault("prefer x;", 2, 7);
-        fault("prefer 1 2;", 2, 9);
-        fault("guests;", 2, 6);
+        CHECK.fault(";", 2, 0);
+        CHECK.fault("7 unit u 1;", 2, 0);
+        CHECK.fault("guest;", 2, 0);
+        CHECK.fault("units u 1;", 2, 0);
+        CHECK.fault("xnit u 1;", 2, 0);
+        CHECK.fault("unix u 1;", 2, 0);
+        CHECK.fault("unit", 2, 4);
+        CHECK.fault("unit  ", 2, 6);
+        CHECK.fault("unit u", 2, 6);
+        CHECK.fault("unit u 1", 2, 8);
+        CHECK.fault("unit u 1\n", 2, 9);
+        CHECK.fault("unit u u;", 2, 7);
+        CHECK.fault("unit 1 u;", 2, 5);
+        CHECK.fault("unit u 1 1;", 2, 9);
+        CHECK.fault("unit u 1 guest;", 2, 9);
+        CHECK.fault("hunter a 1 guest guest;", 2, 17);
+        CHECK.fault("hunter a 1 guests;", 2, 11);
+        CHECK.fault("hunter a;", 2, 8);
+        CHECK.fault("law;", 2, 3);
+        CHECK.fault("law 1;", 2, 4);
+        CHECK.fault("law plain line;", 2, 10);
+        CHECK.fault("prefer ;", 2, 7);
+        CHECK.fault("prefer x;", 2, 7);
+        CHECK.fault("prefer 1 2;", 2, 9);
+        CHECK.fault("guests;", 2, 6);
         for (String kept : new String[] {"unit", "hunter", "guest", "party", "asks", "law", "prefer", "guests"}) {
-            fault("unit " + kept + " 1;", 2, 5);
-            fault("hunter " + kept + " 1;", 2, 7);
-            fault("party " + kept + " a b;", 2, 6);
-            fault("asks " + kept + " a;", 2, 5);
+            CHECK.fault("unit " + kept + " 1;", 2, 5);
+            CHECK.fault("hunter " + kept + " 1;", 2, 7);
+            CHECK.fault("party " + kept + " a b;", 2, 6);
+            CHECK.fault("asks " + kept + " a;", 2, 5);
         }
-        fault("unit a 1;unit b 1;unit c 1;unit d 1;unit e 1;unit f 1;", 2, 45);
-        fault("unit a 1;unit b 1;unit c 1;unit d 1;unit e 1;unit a 99;", 2, 45);
-        fault(hunters(10) + "hunter z 1;", 2, hunters(10).length());
-        String parties = hunters(10) + "party p ha hb;party q hc hd;party r he hf;party s hg hh;";
-        fault(parties + "party t hi hj;", 2, parties.length());
-        fault("law line;law line;", 2, 9);
-        fault("prefer 1;prefer 1;", 2, 9);
-        fault("guests 1;guests 1;", 2, 9);
-        String five = hunters(5);
-        fault(five + "party p;", 2, five.length() + 7);
-        fault(five + "party p ha;", 2, five.length() + 10);
-        fault(five + "party p ha hb 1;", 2, five.length() + 14);
-        fault(five + "party p ha hb hc hd he;", 2, five.length() + 20);
+        CHECK.fault("unit a 1;unit b 1;unit c 1;unit d 1;unit e 1;unit f 1;", 2, 45);
+        CHECK.fault("unit a 1;unit b 1;unit c 1;unit d 1;unit e 1;unit a 99;", 2, 45);
+        CHECK.fault(Check.hunters(10) + "hunter z 1;", 2, Check.hunters(10).length());
+        String parties = Check.hunters(10) + "party p ha hb;party q hc hd;party r he hf;party s hg hh;";
+        CHECK.fault(parties + "party t hi hj;", 2, parties.length());
+        CHECK.fault("law line;law line;", 2, 9);
+        CHECK.fault("prefer 1;prefer 1;", 2, 9);
+        CHECK.fault("guests 1;guests 1;", 2, 9);
+        String five = Check.hunters(5);
+        CHECK.fault(five + "party p;", 2, five.length() + 7);
+        CHECK.fault(five + "party p ha;", 2, five.length() + 10);
+        CHECK.fault(five + "party p ha hb 1;", 2, five.length() + 14);
+        CHECK.fault(five + "party p ha hb hc hd he;", 2, five.length() + 20);
         // A fifth one can't stand there, whoever it is.
-        fault(five + "party p ha hb hc hd ha;", 2, five.length() + 20);
-        fault(five + "party p ha hb", 2, five.length() + 13);
-        fault(five + "party p ha hb hc hd", 2, five.length() + 19);
-        fault(five + "party p ha hb hc hd unit u 1;", 2, five.length() + 20);
+        CHECK.fault(five + "party p ha hb hc hd ha;", 2, five.length() + 20);
+        CHECK.fault(five + "party p ha hb", 2, five.length() + 13);
+        CHECK.fault(five + "party p ha hb hc hd", 2, five.length() + 19);
+        CHECK.fault(five + "party p ha hb hc hd unit u 1;", 2, five.length() + 20);
         String units = "unit u 1;unit v 1;unit w 1;unit x 1;hunter a 1;";
-        fault(units + "asks;", 2, units.length() + 4);
-        fault(units + "asks a;", 2, units.length() + 6);
-        fault(units + "asks a u v w x;", 2, units.length() + 13);
-        fault(units + "asks a u v w u;", 2, units.length() + 13);
-        fault(units + "asks a u 3;", 2, units.length() + 9);
-        fault(units + "asks a unit;", 2, units.length() + 7);
-        fault(units + "asks a u", 2, units.length() + 8);
-        fault(units + "asks a u v w", 2, units.length() + 12);
-        fault(units + "asks a u v w law line;", 2, units.length() + 13);
+        CHECK.fault(units + "asks;", 2, units.length() + 4);
+        CHECK.fault(units + "asks a;", 2, units.length() + 6);
+        CHECK.fault(units + "asks a u v w x;", 2, units.length() + 13);
+        CHECK.fault(units + "asks a u v w u;", 2, units.length() + 13);
+        CHECK.fault(units + "asks a u 3;", 2, units.length() + 9);
+        CHECK.fault(units + "asks a unit;", 2, units.length() + 7);
+        CHECK.fault(units + "asks a u", 2, units.length() + 8);
+        CHECK.fault(units + "asks a u v w", 2, units.length() + 12);
+        CHECK.fault(units + "asks a u v w law line;", 2, units.length() + 13);
     }
 
     private static void faultsOfNumbers() {
-        fault("unit u 21;", 3, 7);
-        fault("unit u 999", 3, 7);
-        fault("hunter a 21 guest;", 3, 9);
-        fault("prefer 101;", 3, 7);
-        fault("guests 101;", 3, 7);
+        CHECK.fault("unit u 21;", 3, 7);
+        CHECK.fault("unit u 999", 3, 7);
+        CHECK.fault("hunter a 21 guest;", 3, 9);
+        CHECK.fault("prefer 101;", 3, 7);
+        CHECK.fault("guests 101;", 3, 7);
     }
 
     private static void faultsOfNames() {
-        fault("unit u 1;unit u 1;", 4, 14);
-        fault("unit u 1;hunter u 1;", 4, 16);
-        fault("hunter a 1;unit a 1;", 4, 16);
-        fault("hunter a 1;hunter a 1;", 4, 18);
+        CHECK.fault("unit u 1;unit u 1;", 4, 14);
+        CHECK.fault("unit u 1;hunter u 1;", 4, 16);
+        CHECK.fault("hunter a 1;unit a 1;", 4, 16);
+        CHECK.fault("hunter a 1;hunter a 1;", 4, 18);
         String three = "unit u 1;hunter a 1;hunter b 1;hunter c 1;";
         int end = three.length();
-        fault(three + "party a b c;", 4, end + 6);
-        fault(three + "party u b c;", 4, end + 6);
-        fault(three + "party p a b;unit p 1;", 4, end + 17);
-        fault(three + "party p a b;hunter p 1;", 4, end + 19);
-        fault(three + "party p a p;", 4, end + 10);
-        fault(three + "party p a a;", 4, end + 10);
-        fault(three + "party p a u;", 4, end + 10);
-        fault(three + "party p x a;", 4, end + 8);
-        fault(three + "party p a b;party q b c;", 4, end + 20);
-        fault(three + "asks a u;party p b a;", 4, end + 19);
-        fault(three + "asks u u;", 4, end + 5);
-        fault(three + "asks x u;", 4, end + 5);
-        fault(three + "asks a u;asks a u;", 4, end + 14);
-        fault(three + "party p a b;asks b u;", 4, end + 17);
-        fault(three + "party p a b;asks p u;asks p u;", 4, end + 26);
-        fault(three + "asks a b;", 4, end + 7);
-        fault(three + "asks a x;", 4, end + 7);
-        fault(three + "asks a u u;", 4, end + 9);
-        fault("unit u 1;unit v 1;hunter a 1;asks a u v u;", 4, 40);
-        fault("unit u 1;unit v 1;hunter a 1;asks a u v v;", 4, 40);
+        CHECK.fault(three + "party a b c;", 4, end + 6);
+        CHECK.fault(three + "party u b c;", 4, end + 6);
+        CHECK.fault(three + "party p a b;unit p 1;", 4, end + 17);
+        CHECK.fault(three + "party p a b;hunter p 1;", 4, end + 19);
+        CHECK.fault(three + "party p a p;", 4, end + 10);
+        CHECK.fault(three + "party p a a;", 4, end + 10);
+        CHECK.fault(three + "party p a u;", 4, end + 10);
+        CHECK.fault(three + "party p x a;", 4, end + 8);
+        CHECK.fault(three + "party p a b;party q b c;", 4, end + 20);
+        CHECK.fault(three + "asks a u;party p b a;", 4, end + 19);
+        CHECK.fault(three + "asks u u;", 4, end + 5);
+        CHECK.fault(three + "asks x u;", 4, end + 5);
+        CHECK.fault(three + "asks a u;asks a u;", 4, end + 14);
+        CHECK.fault(three + "party p a b;asks b u;", 4, end + 17);
+        CHECK.fault(three + "party p a b;asks p u;asks p u;", 4, end + 26);
+        CHECK.fault(three + "asks a b;", 4, end + 7);
+        CHECK.fault(three + "asks a x;", 4, end + 7);
+        CHECK.fault(three + "asks a u u;", 4, end + 9);
+        CHECK.fault("unit u 1;unit v 1;hunter a 1;asks a u v u;", 4, 40);
+        CHECK.fault("unit u 1;unit v 1;hunter a 1;asks a u v v;", 4, 40);
         // NAMES are told ahead of their use.
-        fault("hunter a 1;asks a u;unit u 1;", 4, 18);
+        CHECK.fault("hunter a 1;asks a u;unit u 1;", 4, 18);
     }
 
     private static void theFirstFaultAlongTheText() {
-        fault("unit u 99 ;;", 3, 7);
-        fault("unit u 1;x \t", 2, 9);
-        fault("unit law 99;", 2, 5);
-        fault("hunter a 1;hunter a 99;", 4, 18);
-        fault("\t;", 1, 0);
-    }
-
-    private static String hunters(int n) {
-        StringBuilder text = new StringBuilder();
-        for (int h = 0; h < n; h++) {
-            text.append("hunter h").append((char) ('a' + h)).append(" 1;");
-        }
-        return text.toString();
-    }
-
-    private static void feed(TagDraw x, String text) {
-        for (int from = 0; from < text.length(); from += 20) {
-            int[] five = Check.packed(text, from);
-            x.feed(five[0], five[1], five[2], five[3], five[4]);
-        }
-    }
-
-    private static void fine(String text, int hunters) {
-        CHECK.due("4: load of \"" + text + "\"", Check.load(new TagDraw(), text), hunters);
-    }
-
-    private static void fault(String text, int fault, int place) {
-        TagDraw x = new TagDraw();
-        CHECK.refused("4: load of \"" + text + "\"", x, Check.load(x, text), 9);
-        CHECK.due("5: fault(0) of \"" + text + "\"", x.fault(0), fault);
-        CHECK.due("5: fault(1) of \"" + text + "\"", x.fault(1), place);
-        CHECK.due("4: many(1) behind \"" + text + "\"", x.many(1), 0);
+        CHECK.fault("unit u 99 ;;", 3, 7);
+        CHECK.fault("unit u 1;x \t", 2, 9);
+        CHECK.fault("unit law 99;", 2, 5);
+        CHECK.fault("hunter a 1;hunter a 99;", 4, 18);
+        CHECK.fault("\t;", 1, 0);
     }
 }
