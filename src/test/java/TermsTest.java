@@ -107,7 +107,8 @@ public final class TermsTest {
             for (int law = 0; law < 3; law++) {
                 x.law(law);
                 CHECK.due("9: TICKETS of " + row[0] + " by law " + law, x.applicant(0, 3), row[law + 1]);
-                CHECK.due("12: share(0, 0) by share(0, 1)", x.share(0, 0) * (row[law + 1] + 2), x.share(0, 1) * row[law + 1]);
+                int all = row[law + 1] + 2;
+                CHECK.due("12: share(0, 0) by share(0, 1)", x.share(0, 0) * all, x.share(0, 1) * row[law + 1]);
             }
         }
         TagDraw party = Check.of("hunter a 20;hunter b 1;party p a b;law square;");
@@ -302,7 +303,8 @@ public final class TermsTest {
         BigInteger at = BigInteger.valueOf(seed);
         List<Integer> row = new ArrayList<>();
         while (row.size() < count) {
-            at = at.multiply(BigInteger.valueOf(1_103_515_245)).add(BigInteger.valueOf(12_345)).mod(BigInteger.ONE.shiftLeft(31));
+            at = at.multiply(BigInteger.valueOf(1_103_515_245)).add(BigInteger.valueOf(12_345));
+            at = at.mod(BigInteger.valueOf(2_147_483_648L));
             int draw = at.shiftRight(16).mod(BigInteger.valueOf(all)).intValue();
             int added = 0;
             for (int a = 0; a < count; a++) {
@@ -333,7 +335,8 @@ public final class TermsTest {
             }
             orders(Check.of("hunter a 3;law " + law), LAST_SEED);
         }
-        // x becomes 12,345; 1,103,527,590; 59,559,187 and 1,163,074,432, around from the third on; by 65,536: 0, 16,838, 908, 17,747.
+        // x becomes 12,345; 1,103,527,590; 59,559,187; 1,163,074,432, the last two around;
+        // these by 65,536 are 0; 16,838; 908; 17,747.
         TagDraw four = Check.of("hunter a 0;hunter b 0;hunter c 0;hunter d 0;");
         int[] first = {0, 2, 0, 3};
         for (int seed = 0; seed < 4; seed++) {
@@ -447,8 +450,8 @@ public final class TermsTest {
 
     // ---- "the first one by the SEED, each next one by 1 more, all with POINTS as they are BEHIND the one ahead"
 
-    private static final String FOR_YEARS = "unit u 2;unit v 1;hunter a 0;hunter b 3;hunter c 19;hunter d 5;hunter e 20 guest;"
-        + "party p a b;asks p u;asks c v u;asks d u v;asks e v;law line;prefer 50;guests 50;";
+    private static final String FOR_YEARS = "unit u 2;unit v 1;"
+        + "hunter a 0;hunter b 3;hunter c 19;hunter d 5;hunter e 20 guest;party p a b;asks p u;asks c v u;asks d u v;asks e v;law line;prefer 50;guests 50;";
 
     /** YEARS on paper are as draw() by draw(); by the last SEED there is, too. */
     private static void years() {
