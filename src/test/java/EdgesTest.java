@@ -603,6 +603,12 @@ public final class EdgesTest {
         CHECK.due("34: together(2, 8) of eight, the last", eight.together(2, 8), 999_999_997_920L);
         eight.split(0);
         CHECK.refused("34: together(2, 3) of nine", eight, eight.together(2, 3), 3);
+        // All CHOICES of the first one, whichever of the two has the lower number.
+        TagDraw third = Check.of("unit u 0;unit v 0;unit w 2;hunter a 0;hunter b 0;hunter c 0;asks b u v w;asks c u;");
+        CHECK.due("34: together(1, 0) by the third CHOICE", third.together(1, 0), ALL);
+        CHECK.due("34: together(1, 2) by the third CHOICE", third.together(1, 2), ALL);
+        CHECK.due("34: together(0, 1) without CHOICES", third.together(0, 1), 0);
+        CHECK.due("34: together(2, 1) by the other's only CHOICE", third.together(2, 1), 0);
     }
 
     private static void promise35() {
