@@ -70,6 +70,9 @@ public final class FaceTest {
             .filter(m -> Modifier.isPublic(m.getModifiers())).map(Method::getName).collect(Collectors.toSet());
         Class<?>[] inside = TagDraw.class.getDeclaredClasses();
         check(inside.length < 12, "rule 11: " + inside.length + " classes inside");
+        for (Method m : TagDraw.class.getDeclaredMethods()) {
+            check(Modifier.isPublic(m.getModifiers()) || !names.contains(m.getName()), "rule 1: " + m);
+        }
         for (Class<?> c : inside) {
             check(Modifier.isStatic(c.getModifiers()) && !Modifier.isPublic(c.getModifiers()), "rule 2: " + c);
             for (Method m : c.getDeclaredMethods()) {
